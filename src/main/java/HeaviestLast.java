@@ -5,7 +5,8 @@ public final class HeaviestLast {
     public static final int BAD = -1, NOT = -2, FULL = -3, STATE = -5, VOID = -2000000000;
 
     private static final int MISSING = -11, OTHER_KIND = -12, NO_PLACE = -13, BELOW_ZERO = -14;
-    private static final long REFUSED = Long.MIN_VALUE;
+    // Long's least value: what calls that answer a long refuse with
+    private static final long REFUSED = -9223372036854775808L;
 
     private static final int WAYS = 3, PLACES = 8, SQUARES = 24, MOST_GOERS = 7;
     private static final int MOST_WEAK = 99, MOST_STRENGTH = 99, LAST_MINUTE = 9999;
@@ -1076,6 +1077,9 @@ public final class HeaviestLast {
 
     /** The searches through all orders and all partings of all goers. */
     private static final class Search {
+        // later than any crossing can end
+        private static final int NO_MINUTE = 1000000000;
+
         private final Pond pond;
         private final Crosser crosser;
         private final Ice ice;
@@ -1106,9 +1110,9 @@ public final class HeaviestLast {
         }
 
         int soonestMinute(Ice deed, int way) {
-            begin(deed, Integer.MAX_VALUE);
+            begin(deed, NO_MINUTE);
             tryWaiting(way, 0, 0);
-            return best == Integer.MAX_VALUE ? NOT : best;
+            return best == NO_MINUTE ? NOT : best;
         }
 
         int mostParted(Ice deed) {

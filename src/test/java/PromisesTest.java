@@ -250,7 +250,8 @@ public final class PromisesTest {
   private static void faults() {
     String[] good = {"1", "1234", "0000", "w", "w?t;p?b;s?m", "1;2;3", "1<2", "1<2&3>4|5=6", "(1<2)<3", "!!!!!!1",
         "------1", "((((((1))))))", "!(-(!(1)))", "1--1", "1-!1", "-1+-1+-1+-1+-1+-1+-1+-1", "((((((1))))))+((((((1))))))",
-        "(1|2)&3", "1%2/3*4", "1?2", "!w<!t"};
+        "(1|2)&3", "1%2/3*4", "1?2", "!w<!t",
+        "1?((((((1))))))", "1;((((((1))))))", "((((((1))))))?!!!!!!1"};
     for (String text : good) due(text, law(new HeaviestLast(), text), 1);
     String[] bad = {"", "x", "W", " 1", "1 ", "12345", "123w", "ww", "1;", ";", "1;;2", "1?", "?1", "1?2?3", "1?2;3?4?5",
         "1<2<3", "1<2=3", "1<2+3>4", "(1?2)", "(1;2)", "(1", "()", "1)", "(1))", "!!!!!!!1", "-------1", "(((((((1",
@@ -433,6 +434,12 @@ public final class PromisesTest {
     law(x, "99");
     row(x, 0, 0, 0);
     due("by none", x.strength(0, 1), NOT);
+    HeaviestLast edge = withGoers(60, 0);
+    row(edge, 0, 0, 0);
+    law(edge, "41");
+    due("99 at most: 39 weak", edge.strength(0, 1), 99);
+    law(edge, "42");
+    due("100 would do", edge.strength(0, 1), NOT);
   }
 
   // ---- 10, 13, 16
@@ -485,7 +492,7 @@ public final class PromisesTest {
     HeaviestLast apart = withGoers(30, 60, 30, 60, 30, 60, 30, 60);
     due("three of four", apart.several(-1), 3);
     int[] each = {0, 0, 1, 2};
-    for (int g = 0; g < 4; g++) due("its way", apart.several(g), g == 0 ? 0 : g == 1 ? 0 : each[g]);
+    for (int g = 0; g < 4; g++) due("its way", apart.several(g), each[g]);
     due("nobody", new HeaviestLast().several(-1), 0);
     due("nobody", new HeaviestLast().several(0), BAD);
   }
@@ -503,7 +510,7 @@ public final class PromisesTest {
     due("1 in 9 parts of 1", x.load(1, 1, 9), 9);
     due("20 may be carried", x.load(0, 20, 1), 1);
     due("21 not", x.load(0, 21, 1), 0);
-    due("in 9 parts of 23", x.load(0, 200, 0), NOT);
+    due("23 in each of 9 parts is too much", x.load(0, 200, 0), NOT);
     int[][] bad = {{-1, 5, 1}, {3, 5, 1}, {9, 5, 1}, {10, 5, 1}, {MIN, 5, 1}, {MAX, 5, 1}, {0, 0, 1}, {0, 201, 1},
         {0, 5, -1}, {0, 5, 10}, {0, MIN, 1}, {0, 5, MAX}};
     for (int[] b : bad) due("BAD", x.load(b[0], b[1], b[2]), BAD);
@@ -654,6 +661,27 @@ public final class PromisesTest {
       due("not so", z.judge(0), 1);
     }
     refusals((shelf, way) -> way == 3 || way == -1 ? BAD : z.judge(shelf), z);
+    // who falls at place 1 does not reach place 6, which would not mend; place 1 mends all at once
+    HeaviestLast forward = withGoers(40, 0, 5, 0);
+    forward.mend(0, 5, 1);
+    forward.mend(0, 7, 9);
+    forward.mend(1, 0, 10);
+    forward.mend(1, 1, 9);
+    forward.mend(6, 0, 10);
+    forward.mend(6, 1, 0);
+    row(forward, 0, 0, 0, 0, 1, 0, 1);
+    due("places upward", forward.judge(0), NOT);
+    promise = 8;
+    row(forward, 0, 0, 1);
+    due("places upward", forward.over(0, 0, 0), 1);
+    promise = 12;
+    due("places upward", forward.waits(0, 0, -2), 20);
+    promise = 10;
+    due("places upward", forward.all(0, 0), 0);
+    promise = 23;
+    due("places upward", forward.go(0, 0), 0);
+    due("places upward", forward.go(1, 0), 1);
+    promise = 21;
 
     draws();
   }
