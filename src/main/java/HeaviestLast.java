@@ -51,12 +51,13 @@ public final class HeaviestLast {
     }
 
     public int goers(int shelf, int i, int n) {
-        if (!isShelf(shelf) || i < 0 || n < 1 || n > MOST_GOERS) return BAD;
+        if (!isShelf(shelf) || n < 1 || n > MOST_GOERS) return BAD;
         if (shelves.isEmpty(shelf)) return 0;
         if (!shelves.isBytes(shelf)) return OTHER_KIND;
         int came = 0;
         int at = i;
-        while (came < n && at <= shelves.sizeOf(shelf) - 3 && comes(shelf, at)) {
+        // no bound is told for the place: where the row has no such three, below 0 too, it ends
+        while (came < n && shelves.hasSpan(shelf, at, 3) && comes(shelf, at)) {
             came++;
             at += 3;
         }

@@ -259,13 +259,13 @@ final class Model {
   }
 
   int goers(int shelf, int i, int n) {
-    if (!in(shelf, 0, 5) || i < 0 || !in(n, 1, 7)) return BAD;
+    if (!in(shelf, 0, 5) || !in(n, 1, 7)) return BAD;
     if (shelves[shelf] == null) return 0;
     if (!isBytes(shelf)) return -12;
     long[] v = bytes(shelf);
     for (int k = 0; k < n; k++) {
       long at = (long) i + 3 * k;
-      if (at + 2 >= v.length) return k;
+      if (at < 0 || at + 2 >= v.length) return k;
       int a = (int) at;
       if (!in((int) v[a + 2], 1, 9)) return k;
       int came = goer((int) v[a], (int) v[a + 1]);

@@ -164,7 +164,7 @@ public final class ModelTest {
       int most = i % 3 == 2 ? 9 : 60;
       call("put", shelf, i, draw.nextInt(20) == 0 ? at(-2, 100) : at(1, most));
     }
-    call("goers", about(0, 5) == shelf ? about(0, 5) : shelf, draw.nextInt(3) == 0 ? about(0, n) : 0, about(1, 7));
+    call("goers", about(0, 5) == shelf ? about(0, 5) : shelf, draw.nextInt(3) == 0 ? about(-3, n) : 0, about(1, 7));
   }
 
   private String expression(int depth) {
@@ -205,7 +205,7 @@ public final class ModelTest {
     boolean dear = model.goers.size() > 5;
     switch (draw.nextInt(44)) {
       case 0: call("goer", about(1, 60), about(0, 60)); break;
-      case 1: if (draw.nextInt(3) == 0) goerRow(at(3, 5)); break;
+      case 1: if (draw.nextInt(3) == 0) goerRow(at(3, 5)); else call("goers", about(0, 5), about(-3, 6), about(1, 7)); break;
       case 2: case 3: {
         int what = about(0, 8);
         int limit = Model.in(what, 0, 8) ? Model.RANGE[what][1] : 10;
